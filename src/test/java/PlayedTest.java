@@ -18,7 +18,52 @@ public final class PlayedTest {
         promise19();
         promise20();
         players();
+        full();
+        fresh();
         CHECKS.end();
+    }
+
+    /** The longest rows: 96 places with 864 clicks. */
+    private static void full() {
+        ClickTrack x = longest();
+        x.undo();
+        CHECKS.due("11: the last place", 23, () -> x.place(0, 95, 0));
+        CHECKS.due("11: behind it", -9, () -> x.place(0, 96, 0));
+        CHECKS.due("13: the last place", 95, () -> x.find(0, 23, 4));
+        CHECKS.due("17: nothing", 0, () -> x.missed(0));
+        CHECKS.due("18: all clicks", 864, () -> x.together(0, 1));
+        CHECKS.due("19: nowhere", -9, () -> x.part(0, 1));
+        CHECKS.due("20: nowhere", -9, () -> x.meet(0, 1));
+        x.leaveOut(23, 4, true);
+        CHECKS.due("13: the place is gone", -9, () -> x.find(0, 23, 4));
+        x.skip(1, 22, true);
+        CHECKS.due("18: at half of the clicks of 3 passes", x.together(1, 0), () -> x.together(0, 1));
+        CHECKS.due("19: at bar 22", 22, () -> x.part(0, 1));
+    }
+
+    /** Each call asks anew what the player plays. */
+    private static void fresh() {
+        ClickTrack x = Checks.loaded("Cb2b1b3");
+        x.skip(1, 0, true);
+        long[][] due = {{0, 500000, 0, 2, 500000, 6, 0}, {1, 500000, -9, 11, 500000, 4, 1}};
+        for (int round = 0; round < 4; round++) {
+            long[] d = due[round % 2];
+            int p = (int) d[0];
+            CHECKS.due("11: place(" + p + ", 0, 0)", d[0], () -> x.place(p, 0, 0));
+            x.places(1 - p);
+            CHECKS.due("12: begins(" + p + ", 1)", p == 0 ? 1000000 : 500000, () -> x.begins(p, 1));
+            x.places(1 - p);
+            CHECKS.due("13: find(" + p + ", 0, 1)", d[2], () -> x.find(p, 0, 1));
+            x.places(1 - p);
+            CHECKS.due("14: at(" + p + ", 500000)", d[3], () -> x.at(p, 500000));
+            x.places(1 - p);
+            CHECKS.due("15: nextClick(" + p + ", 2000001)", p == 0 ? 2500000 : -9, () -> x.nextClick(p, 2000001));
+            x.places(1 - p);
+            CHECKS.due("16: clicks(" + p + ", ..)", d[5], () -> x.clicks(p, 0, 9000000));
+            x.places(1 - p);
+            CHECKS.due("17: missed(" + p + ")", d[6], () -> x.missed(p));
+            x.places(1 - p);
+        }
     }
 
     private interface OfPlayer {

@@ -4,6 +4,7 @@ public final class ScoreTest {
 
     public static void main(String[] args) {
         promise6();
+        promise6Full();
         promise7();
         promise7Lengths();
         promise8();
@@ -28,6 +29,21 @@ public final class ScoreTest {
         CHECKS.due("6: no pass is left", 1, () -> x.about(4));
         x.setTempo(0, 0);
         CHECKS.due("6: the mark is away", 1, () -> x.about(2));
+    }
+
+    private static void promise6Full() {
+        ClickTrack x = Checks.loaded("C" + "b9".repeat(24));
+        for (int b = 0; b < 24; b++) {
+            x.setTempo(b, 30 + b);
+            x.setStretch(b, 9, 2);
+            x.setStretch(b, 1, 3);
+            x.leaveOut(b, 4, true);
+        }
+        int[] due = {24, 0, 24, 48, 24};
+        for (int what = 0; what <= 4; what++) {
+            int w = what;
+            CHECKS.due("6: about(" + w + ") of 24 bars", due[w], () -> x.about(w));
+        }
     }
 
     private static void promise7() {

@@ -8,6 +8,7 @@ public final class TextTest {
         promise3();
         promise4Endings();
         promise4Letters();
+        promise4Again();
         promise4Digits();
         promise4Sections();
         promise4Limits();
@@ -129,6 +130,36 @@ public final class TextTest {
         position("Cb4(b3)2t060f12s1b4", -9);
         position("Cb4(b3t060f12s1)2", -9);
         position("Cb4s1s1t060t070f12f13", -9);
+        position("Cbb4", 2);
+        position("Cb4tt120", 4);
+        position("Cb4t1t120", 5);
+        position("Cb4t12t120", 6);
+        position("Cb4ff12", 4);
+        position("Cb4f1f12", 5);
+        position("Cb4ss1", 4);
+        position("C(b4))2", 5);
+        position("C(b4)(b4)2", 5);
+    }
+
+    /** Nothing of a text that was read before may stay. */
+    private static void promise4Again() {
+        ClickTrack x = Checks.written("C(b4");
+        CHECKS.due("4: an open section", 4, () -> x.errorPosition());
+        CHECKS.due("4: the same once more", 4, () -> x.errorPosition());
+        Checks.write(x, "Cb4");
+        CHECKS.due("4: behind an open section", -9, () -> x.errorPosition());
+        Checks.write(x, "Cb1b1t100f12s3");
+        CHECKS.due("4: two bars", -9, () -> x.errorPosition());
+        Checks.write(x, "Ct100");
+        CHECKS.due("4: no bar is told ahead", 1, () -> x.errorPosition());
+        Checks.write(x, "C(b1)2(b1)2(b1)2(b1)2");
+        CHECKS.due("4: four sections", -9, () -> x.errorPosition());
+        CHECKS.due("4: the same once more", -9, () -> x.errorPosition());
+        CHECKS.due("4: it loads nothing", 0, () -> x.about(0));
+        x.append('b');
+        CHECKS.due("4: a bar more", 22, () -> x.errorPosition());
+        x.append('2');
+        CHECKS.due("4: a bar more", -9, () -> x.errorPosition());
     }
 
     private static void promise4Digits() {
@@ -243,5 +274,13 @@ public final class TextTest {
         CHECKS.due("5: load() once more", 2, () -> x.load());
         CHECKS.due("5: no player leaves out", 2, () -> x.places(1));
         CHECKS.refused("5: load is no action", Checks.STATE, () -> x.undo());
+        Checks.write(x, "C(b3t033f34s1)2");
+        x.load();
+        Checks.write(x, "C");
+        x.load();
+        for (int what = 0; what <= 4; what++) {
+            int w = what;
+            CHECKS.due("5: nothing is left", 0, () -> x.about(w));
+        }
     }
 }

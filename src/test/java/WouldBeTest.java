@@ -7,6 +7,7 @@ public final class WouldBeTest {
         promise30();
         promise31Actions();
         promise31Questions();
+        promise31Bars();
         promise31Order();
         promise31Refused();
         promise32();
@@ -58,6 +59,8 @@ public final class WouldBeTest {
         CHECKS.due("30: by a stretch", 3, () -> x.longest(2));
         CHECKS.refused("30: longest(3)", Checks.INDEX, () -> x.longest(3));
         CHECKS.refused("30: longest(-1)", Checks.INDEX, () -> x.longest(-1));
+        ClickTrack alike = Checks.loaded("Cb2t120b1t060");
+        CHECKS.due("30: of two alike the first one", 0, () -> alike.longest(0));
         CHECKS.due("30: no bars", -9, () -> new ClickTrack().longest(1));
         ClickTrack out = Checks.loaded("Cb4s1b1s1");
         CHECKS.due("30: all left out", -9, () -> out.longest(1));
@@ -153,6 +156,37 @@ public final class WouldBeTest {
         script(odd, "70001", 0);
         odd.setTempo(0, 121);
         script(odd, "70001", OK);
+    }
+
+    private static void promise31Bars() {
+        ClickTrack x = Checks.loaded("C" + "b1".repeat(12) + "b5" + "b1".repeat(9) + "b7b3");
+        script(x, "3121470019", 1);
+        script(x, "3121470020", OK);
+        script(x, "31251", OK);
+        script(x, "31261", 0);
+        script(x, "32271", OK);
+        script(x, "32281", 0);
+        script(x, "32331", OK);
+        script(x, "32341", 0);
+        script(x, "32411", 0);
+        script(x, "22303", OK);
+        script(x, "22403", 0);
+        script(x, "2120370053", 1);
+        script(x, "2120370054", OK);
+        script(x, "42341", OK);
+        script(x, "42441", 0);
+        script(x, "52231", OK);
+        script(x, "52241", 0);
+        script(x, "501215122170015", 2);
+        script(x, "501215122170016", OK);
+        script(x, "501215122171014", 2);
+        script(x, "501215122171015", OK);
+        script(x, "412114221160022", OK);
+        script(x, "412114221160023", 2);
+        x.skip(1, 12, true);
+        script(x, "6000091200", 1);
+        script(x, "6100090200", OK);
+        script(x, "700999020090000", OK);
     }
 
     private static void promise31Order() {
