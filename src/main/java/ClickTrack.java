@@ -645,7 +645,7 @@ public final class ClickTrack {
             return count;
         }
 
-        /** The rows may still hold numbers of a bar that is gone: all that are about the new one are set. */
+        /** Sets every number of the new bar, for those of a bar that is gone may still stand. */
         void putBar(int beatCount) {
             if (barCount >= MAX_BARS) {
                 return;
@@ -657,9 +657,6 @@ public final class ClickTrack {
             passSets[b] = 0;
             for (int beat = 1; beat <= MAX_BEATS; beat++) {
                 putStretch(b, beat, 1);
-            }
-            for (int p = 0; p < PLAYERS; p++) {
-                putSkipped(p, b, false);
             }
         }
 
@@ -916,7 +913,7 @@ public final class ClickTrack {
 
         private void playSection(State state, int p, int s) {
             for (int pass = 1; pass <= state.times[s]; pass++) {
-                for (int b = state.firsts[s]; b <= state.lasts[s]; b++) {
+                for (int b = state.firsts[s]; b <= state.lasts[s] && b < state.barCount; b++) {
                     playBar(state, p, b, pass);
                 }
             }

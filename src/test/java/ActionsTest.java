@@ -184,6 +184,15 @@ public final class ActionsTest {
         CHECKS.due("26: removeSection(0)", 0, () -> x.removeSection(0));
         CHECKS.refused("26: removeSection(0)", Checks.INDEX, () -> x.removeSection(0));
         CHECKS.due("26: places", 5, () -> x.places(0));
+        for (int s = 0; s < 4; s++) {
+            ClickTrack four = Checks.loaded("C(b1)2(b2)3(b3)4(b4)2");
+            int gone = s;
+            CHECKS.due("26: removeSection(" + gone + ") of four", 3, () -> four.removeSection(gone));
+            for (int k = 0; k < 3; k++) {
+                int left = k;
+                CHECKS.due("26: first bar", left < gone ? left : left + 1, () -> four.section(left, 0));
+            }
+        }
     }
 
     private static void promise27() {

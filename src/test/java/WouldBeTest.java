@@ -5,6 +5,7 @@ public final class WouldBeTest {
     public static void main(String[] args) {
         promise29();
         promise30();
+        full();
         promise31Actions();
         promise31Questions();
         promise31Bars();
@@ -64,6 +65,18 @@ public final class WouldBeTest {
         CHECKS.due("30: no bars", -9, () -> new ClickTrack().longest(1));
         ClickTrack out = Checks.loaded("Cb4s1b1s1");
         CHECKS.due("30: all left out", -9, () -> out.longest(1));
+    }
+
+    private static void full() {
+        ClickTrack x = Checks.loaded("C(" + "b9".repeat(24) + ")4");
+        CHECKS.due("29: 24 bars", 100, () -> x.percentage(0, 432000000));
+        CHECKS.due("29: 24 bars in less", 101, () -> x.percentage(0, 431999999));
+        CHECKS.due("30: 24 bars", 0, () -> x.longest(0));
+        x.setStretch(23, 9, 2);
+        CHECKS.due("30: bar 23", 23, () -> x.longest(0));
+        int want = rehearsed(Checks.loaded("C(" + "b9".repeat(24) + ")4"), new boolean[3][24], 3, 50);
+        x.undo();
+        CHECKS.due("32: 24 bars", want, () -> x.simulate(3, 50));
     }
 
     private static void script(ClickTrack x, String commands, int want) {
