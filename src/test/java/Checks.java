@@ -76,6 +76,10 @@ final class Checks {
 
     static void write(ClickTrack track, String text) {
         track.clearText();
+        extend(track, text);
+    }
+
+    static void extend(ClickTrack track, String text) {
         for (int i = 0; i < text.length(); i++) {
             track.append(text.charAt(i));
         }
@@ -85,25 +89,30 @@ final class Checks {
         return is ? 1 : 0;
     }
 
-    /** All that the face tells of the state but what is remembered or saved. */
+    /** All that the face tells of the state but what is remembered or saved; for 24 bars in under 400 calls. */
     static String picture(ClickTrack track) {
         StringBuilder out = new StringBuilder();
-        for (int b = 0; b < track.about(0); b++) {
-            for (int what = 0; what <= 5; what++) {
+        int bars = track.about(0);
+        for (int b = 0; b < bars; b++) {
+            int beats = track.bar(b, 0);
+            out.append(beats).append(',');
+            for (int what = 1; what <= 5; what++) {
                 out.append(track.bar(b, what)).append(',');
             }
-            for (int beat = 1; beat <= track.bar(b, 0); beat++) {
+            for (int beat = 1; beat <= beats; beat++) {
                 out.append(track.stretch(b, beat));
             }
             out.append(';');
         }
-        for (int s = 0; s < track.about(1); s++) {
+        int sections = track.about(1);
+        for (int s = 0; s < sections; s++) {
             out.append('(').append(track.section(s, 0)).append('-').append(track.section(s, 1));
             out.append('*').append(track.section(s, 2)).append(')');
         }
         for (int p = 0; p < 3; p++) {
             out.append('|');
-            for (int i = 0; i < track.places(p); i++) {
+            int places = track.places(p);
+            for (int i = 0; i < places; i++) {
                 out.append(track.place(p, i, 0)).append('.').append(track.place(p, i, 1)).append(' ');
             }
         }

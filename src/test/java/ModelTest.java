@@ -3,6 +3,7 @@ public final class ModelTest {
     private static final int RUNS = 240;
     private static final int CALLS = 340;
     private static final String SIGNS = "Cbtfs()0123456789bs()";
+    private static final String ENDING_SIGNS = "\u0000Cbtfs()0123459 ";
 
     private interface Pair {
         long ofClass();
@@ -31,7 +32,12 @@ public final class ModelTest {
                 wrong++;
             }
         }
-        System.out.println("ModelTest: " + RUNS + " runs of " + CALLS + " calls and 4000 texts, " + wrong + " wrong");
+        for (String beginning : new String[] {"", "C", "Cb4", "C(b3", "Cb1(b9)2", "Cb4t", "C(b1)2(b1)2(b1)2(b1"}) {
+            wrong += new ModelTest(0).disagreeBehind(beginning);
+        }
+        wrong += everyCommand();
+        System.out.println("ModelTest: " + RUNS + " runs of " + CALLS + " calls, 4000 texts, each short ending of 7 texts, "
+                + "each command of a script, " + wrong + " wrong");
         if (wrong != 0) {
             System.exit(1);
         }
@@ -110,6 +116,47 @@ public final class ModelTest {
             default:
                 out.append('s').append(between(1, 4));
         }
+    }
+
+    /** Each ending of up to three signs; an object for each of its texts keeps it within its 512 calls. */
+    private int disagreeBehind(String beginning) {
+        int wrong = 0;
+        int signs = ENDING_SIGNS.length();
+        for (int code = 0; code < signs * signs * signs; code++) {
+            StringBuilder text = new StringBuilder(beginning);
+            for (int rest = code; rest > 0; rest /= signs) {
+                text.append(ENDING_SIGNS.charAt(rest % signs));
+            }
+            ClickTrack track = Checks.written(text.toString());
+            lastText = text.toString();
+            copyTextToModel();
+            if (track.errorPosition() != model.errorPosition()) {
+                System.out.println("ModelTest text " + text + ": " + track.errorPosition());
+                wrong++;
+            }
+        }
+        return wrong;
+    }
+
+    /** Each group of five digits as a script of its own, on a score with a section and bars of two digits. */
+    private static int everyCommand() {
+        Model model = new Model();
+        "C(b4t060)2b3b9s2b1b1b1b1b1b1b1b5t130".chars().forEach(model::append);
+        model.load();
+        model.skip(1, 1, true);
+        int wrong = 0;
+        ClickTrack track = null;
+        for (int command = 0; command < 100000; command++) {
+            if (command % 400 == 0) {
+                track = Checks.loaded("C(b4t060)2b3b9s2b1b1b1b1b1b1b1b5t130");
+                track.skip(1, 1, true);
+            }
+            if (track.runScript(1, command) != model.runScript(1, command)) {
+                System.out.println("ModelTest script " + command + ": " + track.runScript(1, command));
+                wrong++;
+            }
+        }
+        return wrong;
     }
 
     private boolean agreeOnText() {

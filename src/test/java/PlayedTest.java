@@ -20,7 +20,62 @@ public final class PlayedTest {
         players();
         full();
         fresh();
+        freshOfTwo();
+        nothingPlayed("no bars", "C", new int[0]);
+        nothingPlayed("all left out by the score", "Cb4s1(b9s1s2)2", new int[0]);
+        nothingPlayed("all left out by the players", "Cb4(b9s1)2", new int[] {0, 1});
         CHECKS.end();
+    }
+
+    /** A row without places, by each player. */
+    private static void nothingPlayed(String what, String text, int[] skipped) {
+        ClickTrack x = Checks.loaded(text);
+        for (int p = 0; p < 3; p++) {
+            for (int b : skipped) {
+                x.skip(p, b, true);
+            }
+        }
+        long due = x.about(0) == 0 ? 0 : 3;
+        for (int k = 0; k < 3; k++) {
+            int p = k;
+            CHECKS.due("10: " + what, 0, () -> x.places(p));
+            for (int w = 0; w < 3; w++) {
+                int of = w;
+                CHECKS.due("11: " + what, -9, () -> x.place(p, 0, of));
+            }
+            CHECKS.due("12: " + what, 0, () -> x.begins(p, 0));
+            CHECKS.refused("12: place 1, " + what, Checks.ARGUMENT, () -> x.begins(p, 1));
+            CHECKS.due("14: " + what, -9, () -> x.at(p, 0));
+            CHECKS.due("15: " + what, -9, () -> x.nextClick(p, 0));
+            CHECKS.due("16: " + what, 0, () -> x.clicks(p, 0, Long.MAX_VALUE));
+            CHECKS.due("17: " + what, due, () -> x.missed(p));
+            CHECKS.due("29: " + what, 50, () -> x.percentage(p, 0));
+            CHECKS.due("30: " + what, -9, () -> x.longest(p));
+            for (int other = 0; other < 3; other++) {
+                int q = other;
+                CHECKS.due("18: " + what, 0, () -> x.together(p, q));
+                CHECKS.due("19: " + what, -9, () -> x.part(p, q));
+                CHECKS.due("20: " + what, -9, () -> x.meet(p, q));
+            }
+        }
+    }
+
+    /** Nothing of the longer row that was asked for before may stay. */
+    private static void freshOfTwo() {
+        ClickTrack x = Checks.loaded("Cb2b1b1b4");
+        x.skip(0, 0, true);
+        x.skip(1, 1, true);
+        x.skip(1, 2, true);
+        CHECKS.due("20: they meet in bar 3", 1000000, () -> x.meet(0, 1));
+        CHECKS.due("18: at 0, 500000 and all of bar 3", 6, () -> x.together(0, 1));
+        x.skip(1, 3, true);
+        CHECKS.due("20: bar 3 is gone", -9, () -> x.meet(0, 1));
+        CHECKS.due("18: at 0 and 500000", 2, () -> x.together(0, 1));
+        CHECKS.due("18: the other way round", 2, () -> x.together(1, 0));
+        CHECKS.due("20: the other way round", -9, () -> x.meet(1, 0));
+        x.skip(1, 0, true);
+        CHECKS.due("18: with nobody", 0, () -> x.together(0, 1));
+        CHECKS.due("19: with nobody", 0, () -> x.part(0, 1));
     }
 
     /** The longest rows: 96 places with 864 clicks. */
@@ -325,6 +380,10 @@ public final class PlayedTest {
         at0.skip(0, 0, true);
         at0.skip(1, 1, true);
         CHECKS.due("20: bar 2 at the same place", -9, () -> at0.meet(0, 1));
+        ClickTrack passes = Checks.loaded("Cb2(b1b1)2");
+        passes.skip(0, 0, true);
+        CHECKS.due("20: the same bar in another pass", -9, () -> passes.meet(0, 1));
+        CHECKS.due("20: the other way round", -9, () -> passes.meet(1, 0));
         CHECKS.due("20: no bars", -9, () -> new ClickTrack().meet(0, 1));
         ClickTrack end = Checks.loaded("Cb2b1b1");
         end.skip(0, 0, true);

@@ -5,6 +5,7 @@ public final class TextTest {
     public static void main(String[] args) {
         promise1();
         promise2();
+        promise2Codes();
         promise3();
         promise4Endings();
         promise4Letters();
@@ -54,6 +55,25 @@ public final class TextTest {
         CHECKS.refused("2: append to 160", Checks.STATE, () -> x.append('C'));
         CHECKS.refused("2: append(256) to 160", Checks.ARGUMENT, () -> x.append(256));
         CHECKS.due("2: the length is kept", 160, () -> x.clearText());
+        CHECKS.due("2: there is room again", 1, () -> x.append('C'));
+        ClickTrack y = Checks.written("Cb4" + "t120".repeat(39));
+        CHECKS.due("2: the 160th sign", 160, () -> y.append('s'));
+        CHECKS.refused("2: the 161st sign", Checks.STATE, () -> y.append('1'));
+        CHECKS.due("2: it is not in the text", 160, () -> y.errorPosition());
+    }
+
+    /** Each code is kept as it is: only 67 makes a score of one sign. */
+    private static void promise2Codes() {
+        for (int code = 0; code <= 255; code++) {
+            int c = code;
+            ClickTrack x = new ClickTrack();
+            CHECKS.due("2: append(" + c + ")", 1, () -> x.append(c));
+            CHECKS.due("2: the text of " + c, c == 'C' ? -9 : 0, () -> x.errorPosition());
+            ClickTrack y = Checks.written("Cb1");
+            y.append(c);
+            boolean begins = "btfs(".indexOf(c) >= 0;
+            CHECKS.due("2: Cb1 and " + c, begins ? 4 : 3, () -> y.errorPosition());
+        }
     }
 
     private static void promise3() {
@@ -219,6 +239,14 @@ public final class TextTest {
         position("Cb4" + "t120".repeat(39) + "b", 160);
         position("Cb44" + "t120".repeat(39), 3);
         position("Cb9b9s1" + "t120".repeat(38) + "f", 160);
+        position("Cb9f12s1" + "t120".repeat(38), -9);
+        String open = "C(" + "b9".repeat(24) + "t030".repeat(27);
+        position(open, 158);
+        position(open + ")", 159);
+        position(open + ")4", -9);
+        position(open + ")5", 159);
+        position(open + "t0", 160);
+        position(open + "s1", 160);
     }
 
     private static void promise5() {

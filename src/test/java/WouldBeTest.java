@@ -161,6 +161,14 @@ public final class WouldBeTest {
         script(many, "70432", OK);
         script(many, "70431", 0);
         script(many, "10001", 0);
+        ClickTrack four = Checks.loaded("C(b1)2(b1)2(b1)2(b1)2");
+        script(four, "83000", OK);
+        script(four, "84000", 0);
+        script(four, "89000", 0);
+        script(four, "8300083000", 1);
+        script(four, "800008000080000", OK);
+        script(four, "800008000060006", OK);
+        script(four, "800008000060007", 2);
         ClickTrack none = new ClickTrack();
         script(none, "60000", OK);
         script(none, "70000", OK);
